@@ -701,7 +701,7 @@ public final class TopicSeams {
             if (rule == 1) return unlike * unlike;
             if (rule == 2) return words + 3 * once;
             int bonds = words - unlike;
-            return Math.max(0, 4 * unlike - bonds);
+            return bonds < 4 * unlike ? 4 * unlike - bonds : 0;
         }
     }
 
