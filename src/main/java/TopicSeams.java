@@ -9,7 +9,7 @@ public final class TopicSeams {
     private static final int MOST_BYTES = 200, MOST_SENTENCES = 12, MOST_WORDS = 9, MOST_LETTERS = 10;
     private static final int ALL_WORDS = MOST_SENTENCES * MOST_WORDS;
     private static final int MOST_PARTS = 8, MOST_CHAINS = 100, MOST_GAPS = 11, TOLD_BITS = 4094;
-    private static final int BLANK = 32, DOT = 46;
+    private static final int GREATEST_BYTE = 255, BLANK = 32, DOT = 46;
 
     private static final int STRANGE = 1, LONG = 2, EMPTY = 3, MANY = 4, OPEN = 5;
     private static final int NULL = 1, INDEX = 2, CAST = 3, STORE = 4, SIZE = 5;
@@ -40,7 +40,7 @@ public final class TopicSeams {
     // ---- the text, numbers
 
     public int type(int b) {
-        if (b < 0 || b > 255) return BAD;
+        if (noByte(b)) return BAD;
         if (text.size >= MOST_BYTES) return FULL;
         text.add(b);
         forgetText();
@@ -94,10 +94,10 @@ public final class TopicSeams {
     public int read(int s) {
         if (noSheet(s)) return BAD;
         if (sheets.isLost(s)) return finding(NULL);
-        int n = Math.min(sheets.sizes[s], MOST_BYTES - text.size);
-        for (int i = 0; i < n; i++) text.add(sheets.item(s, i) & 255);
+        int came = Math.min(leadingBytes(s), MOST_BYTES - text.size);
+        for (int i = 0; i < came; i++) text.add(sheets.item(s, i));
         forgetText();
-        return n;
+        return came;
     }
 
     // ---- sentences, stems, chains
@@ -345,6 +345,17 @@ public final class TopicSeams {
         h = 31 * h + drop(k, 1);
         h = 31 * h + apart(k, 1);
         return 31 * h + apart(k, 3);
+    }
+
+    private static boolean noByte(int b) {
+        return b < 0 || b > GREATEST_BYTE;
+    }
+
+    /** An item that is no byte may not come, and keeps back those behind it. */
+    private int leadingBytes(int s) {
+        int n = 0;
+        while (n < sheets.sizes[s] && !noByte(sheets.item(s, n))) n++;
+        return n;
     }
 
     private static boolean noParts(int k) {

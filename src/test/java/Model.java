@@ -114,8 +114,7 @@ final class Model {
         if (sheets[s] == null) return find(1);
         int came = 0;
         for (long v : items(s)) {
-            if (text.length() == 200) break;
-            text += (char) Math.floorMod(v, 256L);
+            if (v < 0 || v > 255 || type((int) v) == FULL) break;
             came++;
         }
         return came;

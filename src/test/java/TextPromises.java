@@ -24,6 +24,8 @@ public final class TextPromises {
         tell();
         read();
         readForms();
+        readStops();
+        readEdges();
         readFull();
         DUE.end();
     }
@@ -314,17 +316,72 @@ public final class TextPromises {
         DUE.is("8: no items", x.read(0), 0);
     }
 
-    /** Of an item of any form the lowest eight bits are the byte. */
+    private static TopicSeams withItems(int form, int... items) {
+        TopicSeams x = new TopicSeams();
+        x.sheet(0, form, items.length);
+        for (int i = 0; i < items.length; i++) x.put(0, form, i, items[i]);
+        return x;
+    }
+
     private static void readForms() {
         for (int form = 0; form <= 2; form++) {
-            TopicSeams x = new TopicSeams();
-            x.sheet(0, form, 2);
-            x.put(0, form, 0, 256 + 'a');
-            x.put(0, form, 1, '.' - 256);
+            TopicSeams x = withItems(form, 'a', '.');
             DUE.is("8: read of form " + form, x.read(0), 2);
             DUE.is("8: well", x.fault(1), TopicSeams.NONE);
             DUE.is("8: the letter", x.letter(0, 0), 'a');
         }
+    }
+
+    /** An item that is not 0 to 255 may not come, and those behind it do not come either. */
+    private static void readStops() {
+        for (int form = 0; form <= 2; form++) readStopsAt(form, -1);
+        readStopsAt(0, 128);
+        readStopsAt(0, 255);
+        readStopsAt(0, Byte.MIN_VALUE);
+        for (int form = 1; form <= 2; form++) {
+            readStopsAt(form, 256);
+            readStopsAt(form, 256 + 'a');
+            readStopsAt(form, 'a' - 256);
+            readStopsAt(form, Short.MIN_VALUE);
+            readStopsAt(form, Short.MAX_VALUE);
+        }
+        readStopsAt(1, 65535);
+        readStopsAt(2, 65536 + 'a');
+        readStopsAt(2, Integer.MIN_VALUE);
+        readStopsAt(2, Integer.MAX_VALUE);
+    }
+
+    private static void readStopsAt(int form, int item) {
+        String at = " at " + item + " of form " + form;
+        TopicSeams first = withItems(form, item, 'a', '.');
+        DUE.is("8: none comes" + at, first.read(0), 0);
+        DUE.is("8: no bytes" + at, first.count(0), 0);
+        DUE.is("8: it stays well" + at, first.fault(0), TopicSeams.NONE);
+        DUE.is("8: no FINDING" + at, first.count(8), 0);
+        TopicSeams later = withItems(form, 'a', '.', item, 'b');
+        DUE.is("8: two come" + at, later.read(0), 2);
+        DUE.is("8: a sentence" + at, later.count(1), 1);
+        DUE.is("8: two come again" + at, later.read(0), 2);
+        DUE.is("8: four bytes" + at, later.count(0), 4);
+    }
+
+    /** Bytes that no text can go on with may come all the same: they are the FAULT's matter. */
+    private static void readEdges() {
+        TopicSeams bytes = withItems(0, 0, 127);
+        DUE.is("8: 0 and 127 come", bytes.read(0), 2);
+        DUE.is("8: 0 is STRANGE", bytes.fault(1), 1);
+        for (int form = 1; form <= 2; form++) {
+            TopicSeams x = withItems(form, 'a', 0, 128, 255);
+            DUE.is("8: 0, 128 and 255 come of form " + form, x.read(0), 4);
+            DUE.is("8: STRANGE of form " + form, x.fault(1), 1);
+            DUE.is("8: STRANGE at of form " + form, x.fault(0), 1);
+        }
+        TopicSeams full = withItems(1, 'a', -1);
+        for (int i = 0; i < 200; i++) full.type('a');
+        DUE.is("8: none may, whatever the items", full.read(0), 0);
+        full.undo();
+        DUE.is("8: the one that may", full.read(0), 1);
+        DUE.is("8: bytes", full.count(0), 200);
     }
 
     private static void readFull() {
