@@ -1,3 +1,5 @@
+import java.util.function.Supplier;
+
 /** Promise 31: the digest, from answers written out by hand. */
 public final class DigestPromise {
     private static final Due DUE = new Due();
@@ -7,7 +9,7 @@ public final class DigestPromise {
         DUE.is("31: no text", new TopicSeams().digest(), ofNoText());
         DUE.is("31: two sentences", twoSentences().digest(), ofTwoSentences());
         DUE.is("31: a fault", Due.of("a").digest(), ofFault());
-        longTexts();
+        edges();
         changesNothing();
         tellsApart();
         DUE.end();
@@ -62,22 +64,31 @@ public final class DigestPromise {
         return due.add(0).h;
     }
 
-    /** Here the parts are the object's own answers: what is tested is which come, and in what order. */
-    private static long ofAnswers(TopicSeams x) {
+    /**
+     * Here the parts are the object's own answers: what is tested is which come, and in what order.
+     * Each part has an object of its own, since one is used for at most 512 calls.
+     */
+    private static long ofAnswers(Supplier<TopicSeams> made) {
         DigestPromise due = new DigestPromise();
+        TopicSeams x = made.get();
+        int sentences = x.count(1);
+        int stems = x.count(3);
         for (int what = 0; what <= 7; what++) due.add(x.count(what));
         due.add(x.fault(0), x.fault(1), x.fault(2));
         for (int it = 0; it <= 11; it++) {
             due.add(x.sentence(it, 0), x.sentence(it, 1), x.sentence(it, 2), x.sentence(it, 3));
             due.add(x.word(it, 0), x.word(it, 2), x.gap(it, 0), x.gap(it, 1), x.over(it, 0), x.over(it, 1), x.deep(it));
         }
-        for (int it = 0; it < x.count(3); it++) {
-            due.add(x.stem(it, 0), x.stem(it, 1), x.stem(it, 2), x.stem(it, 3), x.letter(it, 0), x.letter(it, 3));
+        for (int it = 0; it < stems; it++) {
+            TopicSeams y = made.get();
+            due.add(y.stem(it, 0), y.stem(it, 1), y.stem(it, 2), y.stem(it, 3), y.letter(it, 0), y.letter(it, 3));
         }
+        x = made.get();
         for (int it = 0; it <= 9; it++) {
             for (int what = 0; what <= 4; what++) due.add(x.chain(it, what));
         }
-        for (int it = 0; it < x.count(1); it++) due.add(x.cost(0, it), x.cost(it, x.count(1)));
+        for (int it = 0; it < sentences; it++) due.add(x.cost(0, it), x.cost(it, sentences));
+        x = made.get();
         for (int k = 1; k <= 8; k++) {
             due.add(x.best(k));
             for (int i = 0; i <= 7; i++) due.add(x.seam(k, i));
@@ -86,16 +97,37 @@ public final class DigestPromise {
         return due.add(x.bent()).h;
     }
 
-    private static void longTexts() {
-        TopicSeams x = Due.of("fish fished sea. sea ships. ship dog. dogs. cat. a b c. a. b. c c. d e. f. a.");
-        TopicSeams asked = Due.of("fish fished sea. sea ships. ship dog. dogs. cat. a b c. a. b. c c. d e. f. a.");
+    private static void ofText(String text) {
         for (int rule = 0; rule <= 3; rule++) {
-            x.set(0, rule);
-            x.tell(1 << rule + 3 | 16);
-            asked.set(0, rule);
-            asked.tell(1 << rule + 3 | 16);
-            DUE.is("31: long text", x.digest(), ofAnswers(asked));
+            int by = rule;
+            Supplier<TopicSeams> made = () -> {
+                TopicSeams x = Due.of(text);
+                x.set(0, by);
+                x.set(1, 10 * by);
+                x.set(2, 1 + by);
+                x.set(3, 4 - by);
+                x.tell(1 << by + 3 | 16);
+                return x;
+            };
+            DUE.is("31: of '" + text + "' by RULE " + rule, made.get().digest(), ofAnswers(made));
         }
+    }
+
+    private static String manyStems() {
+        StringBuilder text = new StringBuilder();
+        for (int w = 0; w < 75; w++) {
+            if (w >= 26) text.append((char) ('a' + (w - 26) / 26));
+            text.append((char) ('a' + w % 26)).append(w % 9 == 8 || w == 74 ? '.' : ' ');
+        }
+        return text.toString();
+    }
+
+    /** No sentence, one, twelve; more chains than come into it; the most stems; letters 0 and 3 of short stems. */
+    private static void edges() {
+        String[] texts = {"", "a.", "abc.", "abcd.", "abcdefghij.", "a. b", "A", "a.a.", "a.b.c.d.e.f.g.h.i.j.k.l.",
+            "a a b b c c d d e.f f g g h h i i e.".repeat(5) + "a a b b c c d d e.e.", manyStems(),
+            "fish fished sea. sea ships. ship dog. dogs. cat. a b c. a. b. c c. d e. f. a."};
+        for (String text : texts) ofText(text);
     }
 
     private static void changesNothing() {

@@ -5,12 +5,18 @@ final class Due {
 
     private int wrong = 0;
     private int asked = 0;
+    private String sentence = "";
+
+    /** The document's own words, which the answers from here on are held against. */
+    void says(String words) {
+        sentence = "\"" + words + "\": ";
+    }
 
     void is(String call, long got, long want) {
         asked++;
         if (got == want) return;
         wrong++;
-        System.out.println(call + " answered " + got + ", due is " + want);
+        System.out.println(sentence + call + " answered " + got + ", due is " + want);
     }
 
     void holds(String what, boolean it) {

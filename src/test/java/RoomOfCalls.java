@@ -10,9 +10,9 @@ public final class RoomOfCalls {
         DUE.is("the text is well", x.count(1), 12);
         askAll(x, 3);
         long before = allocated();
-        askAll(x, 100);
+        askAll(x, 80);
         long made = allocated() - before;
-        DUE.holds("five hundred calls made " + made + " bytes of objects", made < SPARE);
+        DUE.holds("four hundred calls made " + made + " bytes of objects", made < SPARE);
         before = allocated();
         TopicSeams y = new TopicSeams();
         made = allocated() - before;
