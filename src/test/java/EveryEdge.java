@@ -40,7 +40,7 @@ public final class EveryEdge {
         for (String text : TEXTS) {
             EveryEdge edges = new EveryEdge(text);
             for (Method act : face) {
-                if (Modifier.isPublic(act.getModifiers()) && edges.matters(act)) edges.tryAll(act, new int[act.getParameterCount()], 0);
+                if (edges.matters(act)) edges.tryAll(act, new int[act.getParameterCount()], 0);
             }
             edges.end();
         }
@@ -49,6 +49,7 @@ public final class EveryEdge {
 
     /** Acts that take three numbers or more are about sheets alone, so that one text is enough. */
     private boolean matters(Method act) {
+        if (!Modifier.isPublic(act.getModifiers())) return false;
         return act.getParameterCount() < 3 || text.equals(TEXTS[3]);
     }
 

@@ -32,7 +32,9 @@ public final class SentenceEdges {
         int[] noWhat = {-1, 4, LEAST, GREATEST};
         TopicSeams x = Due.of("a. b.");
         for (int s : noSentence) {
-            for (int what = 0; what <= 3; what++) DUE.is("sentence(" + s + ", " + what + ")", x.sentence(s, what), TopicSeams.BAD);
+            for (int what = 0; what <= 3; what++) {
+                DUE.is("sentence(" + s + ", " + what + ")", x.sentence(s, what), TopicSeams.BAD);
+            }
         }
         for (int what : noWhat) {
             DUE.is("sentence(0, " + what + ")", x.sentence(0, what), TopicSeams.BAD);

@@ -88,7 +88,9 @@ public final class SheetEdges {
         TopicSeams x = new TopicSeams();
         for (int s = 0; s <= 2; s++) x.sheet(s, s, 2);
         DUE.says("1 NULL: the SHEET is LOST");
-        for (int s = 0; s <= 3; s++) DUE.is("put(" + s + ", " + s % 3 + ", 0, 1)", x.put(s, s % 3, 0, 1), s == 3 ? Due.NULL : 1);
+        for (int s = 0; s <= 3; s++) {
+            DUE.is("put(" + s + ", " + s % 3 + ", 0, 1)", x.put(s, s % 3, 0, 1), s == 3 ? Due.NULL : 1);
+        }
         DUE.says("2 INDEX: there is no such item");
         for (int i = -2; i <= 3; i++) DUE.is("put(1, 1, " + i + ", 1)", x.put(1, 1, i, 1), i < 0 || i > 1 ? Due.INDEX : 1);
         DUE.says("3 CAST: it has another FORM");
@@ -99,7 +101,9 @@ public final class SheetEdges {
         }
         DUE.says("4 STORE: unlike FORMS");
         for (int s = 0; s <= 2; s++) {
-            for (int t = 0; t <= 2; t++) DUE.is("copy(" + s + ", 0, " + t + ", 0, 2)", x.copy(s, 0, t, 0, 2), s == t ? 1 : Due.STORE);
+            for (int t = 0; t <= 2; t++) {
+                DUE.is("copy(" + s + ", 0, " + t + ", 0, 2)", x.copy(s, 0, t, 0, 2), s == t ? 1 : Due.STORE);
+            }
         }
     }
 

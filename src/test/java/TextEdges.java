@@ -330,7 +330,8 @@ public final class TextEdges {
     /** All that rests on the text answers as with a new object; the bytes themselves stay. */
     private static void asIfEmpty() {
         DUE.says("With a FAULT it is as if it was empty.");
-        String[] texts = {"aa bb aa. bb aa. cc", "aa bb. aa. bb..", "aa. aa. A", TWELVE + "m.", NINE + " j.", "aa. aa. " + TEN + "k."};
+        String[] texts = {"aa bb aa. bb aa. cc", "aa bb. aa. bb..", "aa. aa. A", TWELVE + "m.", NINE + " j.",
+            "aa. aa. " + TEN + "k."};
         for (String text : texts) {
             TopicSeams x = Due.of(text);
             TopicSeams empty = new TopicSeams();
