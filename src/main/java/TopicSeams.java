@@ -18,7 +18,7 @@ public final class TopicSeams {
     private static final int[] LEAST = {0, 0, 1, 1};
     private static final int[] MOST = {3, 40, 4, 4};
 
-    private static final int LOST = -1, ALL_SHEETS = 4, MOST_ITEMS = 60;
+    private static final int LOST = -1, ALL_SHEETS = 4, MOST_ITEMS = 60, LEAST_INT = -2147483648;
 
     private final Text text = new Text();
     private final Fault flaw = new Fault();
@@ -257,11 +257,11 @@ public final class TopicSeams {
     }
 
     public int get(int s, int form, int i) {
-        if (noSheet(s) || noForm(form)) return Integer.MIN_VALUE;
+        if (noSheet(s) || noForm(form)) return LEAST_INT;
         int against = sheets.againstItem(s, form, i);
         if (against != 0) {
             latest = against;
-            return Integer.MIN_VALUE;
+            return LEAST_INT;
         }
         return sheets.item(s, i);
     }
